@@ -1,0 +1,164 @@
+import java.util.NoSuchElementException;
+
+/** Promises 25 to 30, 38, 39 and 52: labels, the game, cycles, and whether the ways to tell agree. */
+final class AcceptanceTests {
+    /** A ladder of attacks 0>1>2>..>7, where every other argument is accepted. */
+    private static final String CHAIN = "0>1 1>2 2>3 3>4 4>5 5>6 6>7";
+
+    private AcceptanceTests() {
+    }
+
+    static void promise25LabelsAlongAChain() {
+        Checks.due("arararar", Maps.labels(Maps.ofEqual(8, CHAIN)));
+    }
+
+    static void promise25CyclesAreUndecided() {
+        Checks.due("uu", Maps.labels(Maps.ofEqual(2, "0>1 1>0")));
+        Checks.due("uuu", Maps.labels(Maps.ofEqual(3, "0>1 1>2 2>0")));
+        Checks.due("uuuu", Maps.labels(Maps.ofEqual(4, "0>1 1>0 0>2 1>2 2>3")));
+        Checks.due("aruu", Maps.labels(Maps.ofEqual(4, "0>1 1>2 2>3 3>2")));
+        Checks.due("arar", Maps.labels(Maps.ofEqual(4, "0>1 1>2 2>3 3>1")));
+    }
+
+    static void promise25OnlySuccessfulAttacksMatter() {
+        ArgumentMap map = Maps.of(5, 6);
+        map.addAttack(0, 1);
+        Checks.due("aa", Maps.labels(map));
+        map.setWeight(0, 6);
+        Checks.due("ar", Maps.labels(map));
+        map.addAttack(1, 0);
+        Checks.due("uu", Maps.labels(map));
+        map.setWeight(1, 7);
+        Checks.due("ra", Maps.labels(map));
+        Checks.refused(NoSuchElementException.class, () -> map.status(2));
+        Checks.refused(NoSuchElementException.class, () -> map.status(-1));
+    }
+
+    static void promise26RoundsAlongAChain() {
+        ArgumentMap map = Maps.ofEqual(8, CHAIN);
+        for (int id = 0; id < 8; id++) {
+            Checks.due(id / 2 + 1, map.roundOf(id));
+        }
+    }
+
+    static void promise26AllOfARoundAtOnce() {
+        ArgumentMap map = Maps.ofEqual(5, "3>2 2>1 1>0 4>0");
+        Checks.due("rarar".length(), map.argumentCount());
+        Checks.due(1, map.roundOf(3));
+        Checks.due(1, map.roundOf(4));
+        Checks.due(1, map.roundOf(2));
+        Checks.due(1, map.roundOf(0));
+        Checks.due(2, map.roundOf(1));
+    }
+
+    static void promise26UndecidedHaveNoRound() {
+        ArgumentMap map = Maps.ofEqual(4, "0>1 1>2 2>3 3>2");
+        Checks.due(1, map.roundOf(1));
+        Checks.refused(NoSuchElementException.class, () -> map.roundOf(2));
+        Checks.refused(NoSuchElementException.class, () -> map.roundOf(4));
+        map.removeAttack(3, 2);
+        Checks.due(2, map.roundOf(2));
+        map.addAttack(3, 2);
+        Checks.refused(NoSuchElementException.class, () -> map.roundOf(2));
+    }
+
+    static void promise27GameAlongAChain() {
+        ArgumentMap map = Maps.ofEqual(8, CHAIN);
+        for (int id = 0; id < 8; id++) {
+            Checks.due(id % 2 == 0, map.isAcceptedByGame(id));
+        }
+        Checks.refused(NoSuchElementException.class, () -> map.isAcceptedByGame(8));
+    }
+
+    static void promise27TheProponentCannotGoRoundACycle() {
+        ArgumentMap map = Maps.ofEqual(4, "0>1 1>2 2>3 3>0");
+        for (int id = 0; id < 4; id++) {
+            Checks.due(false, map.isAcceptedByGame(id));
+        }
+        map.addArgument(5);
+        map.addAttack(4, 3);
+        Checks.due(true, map.isAcceptedByGame(0));
+        Checks.due(false, map.isAcceptedByGame(1));
+        Checks.due(true, map.isAcceptedByGame(2));
+    }
+
+    static void promise27TheProponentNeedsAnAnswerToEachMove() {
+        ArgumentMap map = Maps.ofEqual(5, "1>0 2>0 3>1");
+        Checks.due(false, map.isAcceptedByGame(0));
+        map.addAttack(4, 2);
+        Checks.due(true, map.isAcceptedByGame(0));
+        map.setWeight(4, 4);
+        Checks.due(false, map.isAcceptedByGame(0));
+    }
+
+    static void promise27TheProponentMayChoose() {
+        Checks.due(true, Maps.ofEqual(5, "1>0 2>1 3>1 4>2").isAcceptedByGame(0));
+    }
+
+    static void promise28OpponentWinsWhereTheProponentDoesNot() {
+        ArgumentMap map = Maps.ofEqual(4, "0>1 1>2 2>3 3>2");
+        Checks.due(false, map.canOpponentWin(0));
+        Checks.due(true, map.canOpponentWin(1));
+        Checks.due(true, map.canOpponentWin(2), "undecided");
+        Checks.refused(NoSuchElementException.class, () -> map.canOpponentWin(4));
+    }
+
+    static void promise29AcceptedAreCounted() {
+        Checks.due(0, new ArgumentMap().acceptedCount());
+        Checks.due(4, Maps.ofEqual(8, CHAIN).acceptedCount());
+        Checks.due(1, Maps.ofEqual(4, "0>1 1>2 2>3 3>2").acceptedCount());
+        Checks.due(0, Maps.ofEqual(3, "0>1 1>2 2>0").acceptedCount());
+    }
+
+    static void promise30UndecidedAreCounted() {
+        Checks.due(0, new ArgumentMap().undecidedCount());
+        Checks.due(0, Maps.ofEqual(8, CHAIN).undecidedCount());
+        Checks.due(2, Maps.ofEqual(4, "0>1 1>2 2>3 3>2").undecidedCount());
+        Checks.due(3, Maps.ofEqual(3, "0>1 1>2 2>0").undecidedCount());
+    }
+
+    private static void dueCycle(boolean want, ArgumentMap map) {
+        Checks.due(want, map.hasCycle(), "hasCycle");
+        Checks.due(want, map.hasCycleBySearch(), "hasCycleBySearch");
+    }
+
+    private static void cycles() {
+        dueCycle(false, new ArgumentMap());
+        dueCycle(false, Maps.of(1));
+        dueCycle(false, Maps.ofEqual(8, CHAIN));
+        dueCycle(true, Maps.ofEqual(8, CHAIN + " 7>0"));
+        dueCycle(true, Maps.ofEqual(8, CHAIN + " 7>6"));
+        dueCycle(false, Maps.ofEqual(4, "0>1 0>2 1>3 2>3"));
+        dueCycle(true, Maps.ofEqual(2, "0>1 1>0"));
+        dueCycle(true, Maps.ofEqual(8, "5>6 6>7 7>5"));
+        dueCycle(false, Maps.ofEqual(8, "7>6 6>5 5>4 4>3 3>2 2>1 1>0"));
+    }
+
+    private static void cyclesOfSuccessfulAttacks() {
+        ArgumentMap map = Maps.of(5, 6, 7);
+        Maps.attack(map, "0>1 1>2 2>0");
+        dueCycle(false, map);
+        map.setWeight(0, 7);
+        dueCycle(false, map);
+        map.setWeight(1, 7);
+        dueCycle(true, map);
+    }
+
+    static void promise38CyclesByTakingAway() {
+        cycles();
+        cyclesOfSuccessfulAttacks();
+    }
+
+    static void promise39CyclesBySearch() {
+        cycles();
+        cyclesOfSuccessfulAttacks();
+    }
+
+    static void promise52MapsAreConsistent() {
+        Checks.due(true, new ArgumentMap().isConsistent());
+        Checks.due(true, Maps.ofEqual(8, CHAIN).isConsistent());
+        Checks.due(true, Maps.ofEqual(8, CHAIN + " 7>0").isConsistent());
+        Checks.due(true, Maps.ofEqual(3, "0>1 1>2 2>0").isConsistent());
+        Checks.due(true, Maps.ofEqual(4, "0>1 1>2 2>3 3>2").isConsistent());
+    }
+}
