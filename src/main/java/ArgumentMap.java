@@ -151,10 +151,16 @@ public final class ArgumentMap {
 
     public int attackerAt(int id, int position) throws NoSuchElementException, IndexOutOfBoundsException {
         int attackers = now.attackers[now.slotOfKnown(id)];
-        if (position < 0 || position >= Integer.bitCount(attackers)) {
-            throw new IndexOutOfBoundsException("no attacker has this position");
+        int before = 0;
+        for (int slot = 0; slot < now.count; slot++) {
+            if (has(attackers, slot)) {
+                if (before == position) {
+                    return now.ids[slot];
+                }
+                before++;
+            }
         }
-        return now.ids[slotAt(attackers, position)];
+        throw new IndexOutOfBoundsException("no attacker has this position");
     }
 
     public char status(int id) throws NoSuchElementException {
@@ -462,20 +468,6 @@ public final class ArgumentMap {
 
     private static boolean has(int set, int slot) {
         return ((set >> slot) & 1) != 0;
-    }
-
-    /** Returns the slot that stands at this position in the set, or NONE. */
-    private static int slotAt(int set, int position) {
-        int before = 0;
-        for (int slot = 0; slot < MAX_ARGUMENTS; slot++) {
-            if (has(set, slot)) {
-                if (before == position) {
-                    return slot;
-                }
-                before++;
-            }
-        }
-        return NONE;
     }
 
     /** The commands. In a pattern, # stands for a number, ? for a digit, and any other character for itself. */

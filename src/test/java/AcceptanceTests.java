@@ -95,6 +95,28 @@ final class AcceptanceTests {
         Checks.due(true, Maps.ofEqual(5, "1>0 2>1 3>1 4>2").isAcceptedByGame(0));
     }
 
+    static void promise27OneAnswerForTwoMoves() {
+        Checks.due(true, Maps.ofEqual(4, "1>0 2>0 3>1 3>2").isAcceptedByGame(0));
+        Checks.due(false, Maps.ofEqual(6, "1>0 2>0 3>1 4>1 3>2 5>3").isAcceptedByGame(0));
+        Checks.due(true, Maps.ofEqual(7, "1>0 2>0 3>1 4>1 3>2 5>3 6>5").isAcceptedByGame(0));
+    }
+
+    /** All that 8 arguments and 20 attacks can make of the game at its longest. */
+    static void promise27LongGames() {
+        ArgumentMap map = Maps.ofEqual(8, "0>1 1>0 1>2 2>1 2>3 3>2 3>4 4>3 4>5 5>4 5>6 6>5 6>7 7>6 7>0 0>7");
+        Maps.attack(map, "0>4 4>0 2>6 6>2");
+        for (int id = 0; id < 8; id++) {
+            Checks.due(false, map.isAcceptedByGame(id));
+        }
+        map.removeAttack(1, 0);
+        map.removeAttack(7, 0);
+        map.removeAttack(4, 0);
+        for (int id = 0; id < 8; id++) {
+            Checks.due(map.status(id) == 'a', map.isAcceptedByGame(id));
+        }
+        Checks.due(true, map.isAcceptedByGame(0));
+    }
+
     static void promise28OpponentWinsWhereTheProponentDoesNot() {
         ArgumentMap map = Maps.ofEqual(4, "0>1 1>2 2>3 3>2");
         Checks.due(false, map.canOpponentWin(0));

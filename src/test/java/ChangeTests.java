@@ -60,6 +60,8 @@ final class ChangeTests {
         map.removeArgument(1);
         map.addArgument(7);
         Checks.due("day 20; 0 w5 a20; 2 w7 a0; moves; totals 0 0 0", Maps.picture(map));
+        Checks.due(0, map.attackerCount(2));
+        Checks.due('a', map.status(2));
     }
 
     static void promise03AttacksFromAndOnItGo() {
@@ -72,6 +74,16 @@ final class ChangeTests {
         Checks.due(0, map.removeArgument(0));
         Checks.due(0, map.removeArgument(2));
         Checks.due(0, map.argumentCount());
+    }
+
+    static void promise03OthersKeepTheirWeightsAndAges() {
+        ArgumentMap map = Maps.of(9);
+        for (int weight = 8; weight > 4; weight--) {
+            map.pass(10);
+            map.addArgument(weight);
+        }
+        map.removeArgument(1);
+        Checks.due("day 40; 0 w9 a40; 2 w7 a20; 3 w6 a10; 4 w5 a0; moves; totals 0 0 0", Maps.picture(map));
     }
 
     static void promise03EachSlotCanGo() {

@@ -31,6 +31,19 @@ final class FutureTests {
         Checks.due(5, map.daysUntilChange());
     }
 
+    static void promise40FromAcceptedOrUndecidedAlone() {
+        ArgumentMap map = Maps.of(5, 5, 6);
+        Maps.attack(map, "0>1 1>0 0>2");
+        Checks.due("uua", Maps.labels(map));
+        Checks.due(50, map.daysUntilChange());
+        Checks.due('u', map.statusAfter(2, 50));
+        ArgumentMap other = Maps.of(9, 9, 6, 5);
+        Maps.attack(other, "0>1 1>0 0>2 3>2");
+        Checks.due("uuua", Maps.labels(other));
+        Checks.due(50, other.daysUntilChange());
+        Checks.due('r', other.statusAfter(2, 50));
+    }
+
     static void promise40ChangesWithoutLabels() {
         ArgumentMap map = Maps.of(9, 5, 9);
         Maps.attack(map, "0>1 1>0 2>1");

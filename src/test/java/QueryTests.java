@@ -131,6 +131,12 @@ final class QueryTests {
         Checks.refused(IndexOutOfBoundsException.class, () -> map.attackerAt(2, 0));
     }
 
+    static void promise24FirstAndLastArgumentAsAttackers() {
+        ArgumentMap map = Maps.ofEqual(8, "7>3 0>3");
+        Checks.due(0, map.attackerAt(3, 0));
+        Checks.due(7, map.attackerAt(3, 1));
+    }
+
     static void promise42OrderOfStrengths() {
         ArgumentMap map = Maps.of(5, 7, 5, 5, 7, 9);
         map.removeArgument(5);

@@ -134,12 +134,17 @@ final class RandomRunTests {
                 () -> CHANGES.get(name).on(map, first, second), () -> plain.change(name, first, second));
     }
 
-    /** Most often the id of an argument, or else a number near one. */
+    /** Most often the id of an argument, or else a number near one, or far from all. */
     private int id() {
         if (map.argumentCount() > 0 && random.nextInt(25) > 0) {
             return map.idAt(random.nextInt(map.argumentCount()));
         }
-        return random.nextInt(12) - 2;
+        return random.nextInt(4) > 0 ? random.nextInt(12) - 2 : far();
+    }
+
+    private int far() {
+        int edge = random.nextBoolean() ? Integer.MIN_VALUE : Integer.MAX_VALUE;
+        return random.nextBoolean() ? edge : random.nextInt();
     }
 
     /** Most often an attacker of the last move, as other moves are refused. */
@@ -155,7 +160,7 @@ final class RandomRunTests {
     private void ask() {
         String name = QUESTION_NAMES.get(random.nextInt(QUESTION_NAMES.size()));
         boolean byPosition = List.of("idAt", "moveAt", "lineChar", "argumentByStrength").contains(name);
-        int first = byPosition ? random.nextInt(11) - 1 : id();
+        int first = byPosition && random.nextInt(40) > 0 ? random.nextInt(11) - 1 : id();
         int second = switch (name) {
             case "attackerAt" -> random.nextInt(5) - 1;
             case "statusAfter" -> random.nextInt(94) - 1;
