@@ -1184,14 +1184,13 @@ public final class ArgumentMap {
         }
 
         private boolean readPart(StringBuilder text, char part) {
-            switch (part) {
-                case NUMBER:
-                    return readNumber(text, DIGITS_OF_NUMBER);
-                case DIGIT:
-                    return readNumber(text, 1);
-                default:
-                    return readCharacter(text, part);
+            if (part == NUMBER) {
+                return readNumber(text, DIGITS_OF_NUMBER);
             }
+            if (part == DIGIT) {
+                return readNumber(text, 1);
+            }
+            return readCharacter(text, part);
         }
 
         private boolean readCharacter(StringBuilder text, char wanted) {
