@@ -8,10 +8,12 @@ final class AcceptanceTests {
     private AcceptanceTests() {
     }
 
+    @Says("Returns the label of an argument.")
     static void promise25LabelsAlongAChain() {
         Checks.due("arararar", Maps.labels(Maps.ofEqual(8, CHAIN)));
     }
 
+    @Says("Returns 'a' if it is accepted, 'r' if it is rejected, 'u' if it is undecided.")
     static void promise25CyclesAreUndecided() {
         Checks.due("uu", Maps.labels(Maps.ofEqual(2, "0>1 1>0")));
         Checks.due("uuu", Maps.labels(Maps.ofEqual(3, "0>1 1>2 2>0")));
@@ -34,6 +36,7 @@ final class AcceptanceTests {
         Checks.refused(NoSuchElementException.class, () -> map.status(-1));
     }
 
+    @Says("Returns the number of the round in which an argument gets its label.")
     static void promise26RoundsAlongAChain() {
         ArgumentMap map = Maps.ofEqual(8, CHAIN);
         for (int id = 0; id < 8; id++) {
@@ -82,6 +85,8 @@ final class AcceptanceTests {
         Checks.due(true, map.isAcceptedByGame(2));
     }
 
+    @Says("Returns whether an argument is accepted, by searching whether the proponent can always win the game "
+            + "about it.")
     static void promise27TheProponentNeedsAnAnswerToEachMove() {
         ArgumentMap map = Maps.ofEqual(5, "1>0 2>0 3>1");
         Checks.due(false, map.isAcceptedByGame(0));
@@ -117,6 +122,7 @@ final class AcceptanceTests {
         Checks.due(true, map.isAcceptedByGame(0));
     }
 
+    @Says("Returns whether the opponent can always win the game about an argument: whether the proponent cannot.")
     static void promise28OpponentWinsWhereTheProponentDoesNot() {
         ArgumentMap map = Maps.ofEqual(4, "0>1 1>2 2>3 3>2");
         Checks.due(false, map.canOpponentWin(0));

@@ -6,12 +6,15 @@ import java.util.Set;
 import java.util.TreeSet;
 import java.util.stream.Stream;
 
-/** Runs every test: each static method of the classes below whose name begins with "promise" or "test". */
+/** Runs every test: each static method of the classes below whose name begins with one of the words below. */
 public final class AllTests {
     private static final List<Class<?>> CLASSES = List.of(ChangeTests.class, QueryTests.class, DialogueTests.class,
             AcceptanceTests.class, ExtensionTests.class, FutureTests.class, LineTests.class, ProgramTests.class,
-            UndoTests.class, FaceTests.class, RandomRunTests.class);
-    private static final int PROMISES = 63;
+            UndoTests.class, UnknownIdTests.class, RefusalTests.class, BoundTests.class, TermTests.class,
+            AcceptanceTermTests.class, DialogueTermTests.class, CommandTermTests.class, UndoTermTests.class,
+            SentenceTests.class, FaceTests.class, RandomRunTests.class);
+    private static final List<String> WORDS = List.of("promise", "terms", "about", "test");
+    static final int PROMISES = 63;
 
     private AllTests() {
     }
@@ -41,10 +44,10 @@ public final class AllTests {
         System.exit(failed == 0 ? 0 : 1);
     }
 
-    private static List<Method> tests() {
+    static List<Method> tests() {
         return CLASSES.stream()
                 .flatMap(tested -> Stream.of(tested.getDeclaredMethods()))
-                .filter(method -> method.getName().startsWith("promise") || method.getName().startsWith("test"))
+                .filter(method -> !method.isSynthetic() && WORDS.stream().anyMatch(method.getName()::startsWith))
                 .sorted(Comparator.comparing(Method::getName))
                 .toList();
     }

@@ -23,6 +23,7 @@ final class ChangeTests {
         Checks.due(5, map.weightOf(0));
     }
 
+    @Says({"Adds an argument.", "Returns the id of the argument."})
     static void promise02IdsCountUp() {
         ArgumentMap map = new ArgumentMap();
         Checks.due(0, map.addArgument(1));
@@ -164,6 +165,7 @@ final class ChangeTests {
         Checks.due(0, map.removeAttack(0, 1));
     }
 
+    @Says({"Sets the weight of an argument, without changing its age.", "Returns the weight before."})
     static void promise06WeightIsSetAndAgeStays() {
         ArgumentMap map = Maps.of(5, 4);
         map.addAttack(1, 0);

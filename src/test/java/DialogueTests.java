@@ -123,6 +123,7 @@ final class DialogueTests {
         Checks.due('o', fullDialogue().endDialogue());
     }
 
+    @Says({"Returns whether a dialogue is held.", "Returns true if one is held."})
     static void promise43HeldFromStartToEnd() {
         ArgumentMap map = Maps.of(5);
         Checks.due(false, map.isDialogueHeld());

@@ -45,6 +45,7 @@ final class ExtensionTests {
         stableSetsBySuccessfulAttacks();
     }
 
+    @Says("Returns the number of preferred sets.")
     static void promise33PreferredSets() {
         Checks.due(1, new ArgumentMap().preferredCount());
         Checks.due(1, Maps.of(1, 2).preferredCount());

@@ -35,9 +35,23 @@ final class Maps {
         }
     }
 
+    static ArgumentMap typed(ArgumentMap map, String text) {
+        type(map, text);
+        return map;
+    }
+
     static int run(ArgumentMap map, String program) {
         type(map, program);
         return map.run();
+    }
+
+    /** The whole line, up to the index at which it ends. */
+    static String line(ArgumentMap map) {
+        StringBuilder line = new StringBuilder();
+        while (Checks.outcome(() -> map.lineChar(line.length())) instanceof Character next) {
+            line.append(next);
+        }
+        return line.toString();
     }
 
     static String line(ArgumentMap map, int length) {
@@ -54,6 +68,58 @@ final class Maps {
             labels.append(map.status(map.idAt(position)));
         }
         return labels.toString();
+    }
+
+    /** A map with something of everything: gone and fading arguments, a dialogue, a line, a copy, changes to undo. */
+    static ArgumentMap rich() {
+        ArgumentMap map = of(5, 6, 7, 5);
+        attack(map, "1>0 2>1 0>2 3>0");
+        map.save();
+        type(map, "add 5;ax");
+        Checks.refused(IllegalArgumentException.class, map::run);
+        type(map, "renew 1;back");
+        Checks.refused(IllegalStateException.class, map::run);
+        map.removeArgument(3);
+        map.pass(3);
+        map.startDialogue(0);
+        map.move(1);
+        map.formatArgument(0);
+        type(map, "renew ");
+        return map;
+    }
+
+    /** The same without a dialogue. */
+    static ArgumentMap quiet() {
+        ArgumentMap map = rich();
+        map.endDialogue();
+        return map;
+    }
+
+    /** A dialogue with all its 12 moves: 0 answers 1, 2, .. 6 in turn; 7 attacks 0, and has not been moved. */
+    static ArgumentMap fullDialogue() {
+        ArgumentMap map = ofEqual(8, "0>1 1>0 0>2 2>0 0>3 3>0 0>4 4>0 0>5 5>0 0>6 6>0 7>0");
+        map.startDialogue(1);
+        for (int proponents = 2; proponents <= 6; proponents++) {
+            map.move(0);
+            map.move(proponents);
+        }
+        map.move(0);
+        return map;
+    }
+
+    /** Twenty attacks between six arguments: of 0 to 3 on all others. */
+    static ArgumentMap fullOfAttacks() {
+        return fullOfAttacks(5, 5, 5, 5, 5, 5);
+    }
+
+    static ArgumentMap fullOfAttacks(int... weights) {
+        ArgumentMap map = of(weights);
+        for (int attack = 0; attack < 24; attack++) {
+            if (attack / 6 != attack % 6) {
+                map.addAttack(attack / 6, attack % 6);
+            }
+        }
+        return map;
     }
 
     /** All that changes can change, as far as the face shows it. */

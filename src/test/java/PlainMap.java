@@ -485,8 +485,8 @@ final class PlainMap {
     int run() {
         String program = input;
         input = "";
-        if (!PROGRAM.matcher(program).matches()) {
-            errorPosition = longestPrefix(program);
+        if (!isWellFormed(program)) {
+            errorPosition = errorPositionOf(program);
             argue(false);
         }
         World was = world.copy();
@@ -504,7 +504,12 @@ final class PlainMap {
         return commands.length;
     }
 
-    private static int longestPrefix(String program) {
+    static boolean isWellFormed(String program) {
+        return PROGRAM.matcher(program).matches();
+    }
+
+    /** The error position of a malformed program. */
+    static int errorPositionOf(String program) {
         for (int length = program.length(); length > 0; length--) {
             Matcher matcher = PROGRAM.matcher(program.substring(0, length));
             if (matcher.matches() || matcher.hitEnd()) {

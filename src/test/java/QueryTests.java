@@ -31,6 +31,7 @@ final class QueryTests {
         Checks.refused(IndexOutOfBoundsException.class, () -> map.idAt(8));
     }
 
+    @Says("Returns the weight of an argument.")
     static void promise16Weights() {
         ArgumentMap map = Maps.of(1, 2, 3);
         map.removeArgument(0);
@@ -41,6 +42,7 @@ final class QueryTests {
         Checks.refused(NoSuchElementException.class, () -> map.weightOf(3));
     }
 
+    @Says("Returns the age of an argument.")
     static void promise17AgesEndAtNinety() {
         ArgumentMap map = Maps.of(1);
         map.pass(45);
@@ -54,6 +56,7 @@ final class QueryTests {
         Checks.refused(NoSuchElementException.class, () -> map.ageOf(-1));
     }
 
+    @Says("Returns the strength of an argument.")
     static void promise18StrengthFades() {
         ArgumentMap map = Maps.of(9, 2);
         map.pass(9);
@@ -78,6 +81,7 @@ final class QueryTests {
         Checks.due(2, map.attackCount());
     }
 
+    @Says("Returns whether there is an attack, successful or not.")
     static void promise20AttackHasADirection() {
         ArgumentMap map = Maps.of(1, 9);
         map.addAttack(0, 1);
@@ -89,6 +93,7 @@ final class QueryTests {
         Checks.refused(NoSuchElementException.class, () -> map.hasAttack(2, 2));
     }
 
+    @Says("Returns whether an attack is successful.")
     static void promise21SuccessNeedsAsMuchStrength() {
         ArgumentMap map = Maps.of(5, 6, 5);
         Maps.attack(map, "0>1 1>0 0>2");

@@ -182,6 +182,7 @@ final class UndoTests {
         Checks.due(1, map.restore());
     }
 
+    @Says("Returns the number of arguments.")
     static void promise63RestoreMoreThanOnce() {
         ArgumentMap map = Maps.of(5, 5);
         Checks.refused(IllegalStateException.class, () -> map.restore());
