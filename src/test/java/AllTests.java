@@ -10,9 +10,10 @@ import java.util.stream.Stream;
 public final class AllTests {
     private static final List<Class<?>> CLASSES = List.of(ChangeTests.class, QueryTests.class, DialogueTests.class,
             AcceptanceTests.class, ExtensionTests.class, FutureTests.class, LineTests.class, ProgramTests.class,
-            UndoTests.class, UnknownIdTests.class, RefusalTests.class, BoundTests.class, TermTests.class,
-            AcceptanceTermTests.class, DialogueTermTests.class, CommandTermTests.class, UndoTermTests.class,
-            SentenceTests.class, FaceTests.class, RandomRunTests.class);
+            UndoTests.class, UnknownIdTests.class, RefusalTests.class, ChangeBoundTests.class,
+            QuestionBoundTests.class, ProgramBoundTests.class, TermTests.class, AcceptanceTermTests.class,
+            DialogueTermTests.class, CommandTermTests.class, UndoTermTests.class, SentenceTests.class, FaceTests.class,
+            RandomRunTests.class);
     private static final List<String> WORDS = List.of("promise", "terms", "about", "test");
     static final int PROMISES = 63;
 

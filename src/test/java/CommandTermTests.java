@@ -1,3 +1,5 @@
+import java.util.function.Function;
+
 /** The section "Terms" on commands: the input buffer, the grammar, and the error position. */
 final class CommandTermTests {
     /** One example of each command, for a map of three arguments with the attack 0>1 and a dialogue about 1. */
@@ -95,7 +97,7 @@ final class CommandTermTests {
     }
 
     /** Two maps alike: one takes the call, the other the program; both then show the same. */
-    private static void dueSame(String program, java.util.function.Function<ArgumentMap, Object> call) {
+    private static void dueSame(String program, Function<ArgumentMap, Object> call) {
         ArgumentMap called = commanded();
         call.apply(called);
         ArgumentMap commanded = commanded();

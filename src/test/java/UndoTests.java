@@ -213,6 +213,23 @@ final class UndoTests {
         Checks.due(0, map.addArgument(5));
     }
 
+    static void promise63RestStays() {
+        ArgumentMap map = Maps.rich();
+        String line = Maps.line(map);
+        map.save();
+        Maps.type(map, "1;x");
+        Checks.refused(IllegalArgumentException.class, map::run);
+        Maps.type(map, "renew 2;days 1;remove 9");
+        Checks.refused(IllegalStateException.class, map::run);
+        Maps.type(map, "days 4");
+        map.restore();
+        Checks.due(line, Maps.line(map));
+        Checks.due(8, map.errorPosition());
+        Checks.due(2, map.failedCommand());
+        Checks.due(1, map.run());
+        Checks.due(7, map.day());
+    }
+
     static void promise63TotalsAndDayAreRestored() {
         ArgumentMap map = Maps.of(5);
         map.save();
