@@ -1,4 +1,5 @@
 import java.util.NoSuchElementException;
+import java.util.Random;
 
 /** Promises 25 to 30, 38, 39 and 52: labels, the game, cycles, and whether the ways to tell agree. */
 final class AcceptanceTests {
@@ -104,6 +105,38 @@ final class AcceptanceTests {
         Checks.due(true, Maps.ofEqual(4, "1>0 2>0 3>1 3>2").isAcceptedByGame(0));
         Checks.due(false, Maps.ofEqual(6, "1>0 2>0 3>1 4>1 3>2 5>3").isAcceptedByGame(0));
         Checks.due(true, Maps.ofEqual(7, "1>0 2>0 3>1 4>1 3>2 5>3 6>5").isAcceptedByGame(0));
+    }
+
+    /** 2 after 3 is lost, as 3 alone answers 7 and has been moved; 3 after 2 is won, as 4 answers 6 too. */
+    static void promise27TheOrderOfTheProponentsMovesMatters() {
+        ArgumentMap map = Maps.ofEqual(8, "1>0 5>0 3>1 2>5 6>3 2>6 4>6 7>2 3>7");
+        for (int id : new int[] {0, 2, 3, 4}) {
+            Checks.due(true, map.isAcceptedByGame(id), "game about " + id);
+        }
+        for (int id : new int[] {1, 5, 6, 7}) {
+            Checks.due(false, map.isAcceptedByGame(id), "game about " + id);
+        }
+    }
+
+    /** Maps of 8 arguments and up to 20 attacks against a search that remembers nothing. */
+    static void promise27GamesOnGreatMaps() {
+        Random random = new Random(27);
+        for (int game = 0; game < 3000; game++) {
+            ArgumentMap map = Maps.ofEqual(8, "");
+            int[] attacks = new int[8];
+            int wanted = 6 + random.nextInt(15);
+            while (map.attackCount() < wanted) {
+                int from = random.nextInt(8);
+                int to = (from + 1 + random.nextInt(7)) % 8;
+                if (!map.hasAttack(from, to)) {
+                    map.addAttack(from, to);
+                    attacks[from] |= 1 << to;
+                }
+            }
+            for (int id = 0; id < 8; id++) {
+                Checks.due(Graphs.isWon(attacks, id, 1 << id), map.isAcceptedByGame(id), "game about " + id);
+            }
+        }
     }
 
     /** All that 8 arguments and 20 attacks can make of the game at its longest. */
