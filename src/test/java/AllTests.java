@@ -13,7 +13,7 @@ public final class AllTests {
             UndoTests.class, UnknownIdTests.class, RefusalTests.class, ChangeBoundTests.class,
             QuestionBoundTests.class, ProgramBoundTests.class, TermTests.class, AcceptanceTermTests.class,
             DialogueTermTests.class, CommandTermTests.class, UndoTermTests.class, SentenceTests.class, FaceTests.class,
-            RandomRunTests.class);
+            ReadmeTests.class, RandomRunTests.class);
     private static final List<String> WORDS = List.of("promise", "terms", "about", "test");
     static final int PROMISES = 63;
 
